@@ -265,8 +265,7 @@ public final class GraveNews {
         int below = parish.allWeights();
         if (below == 0) return NOT;
         int above = parish.weightsOfHearing(reader, place, set);
-        int common = commonDivisor(above, below);
-        return (part == 0 ? above : below) / common;
+        return part == 0 ? inLowestTerms(above, below) : inLowestTerms(below, above);
     }
 
     public int likeliest(int reader, int set) {
@@ -490,11 +489,12 @@ public final class GraveNews {
         return parish.papers.orders;
     }
 
-    private static int commonDivisor(int above, int below) {
-        for (int d = below; d > 1; d--) {
-            if (above % d == 0 && below % d == 0) return d;
+    /** One part of a fraction; divisors are tried from above, so that the first that fits is the greatest. */
+    private static int inLowestTerms(int part, int other) {
+        for (int d = Math.max(part, other); d > 1; d--) {
+            if (part % d == 0 && other % d == 0) return part / d;
         }
-        return 1;
+        return part;
     }
 
     /** GRAVES by rows, with what they HEARD. */
@@ -505,7 +505,7 @@ public final class GraveNews {
         final int[] years = new int[MOST_GRAVES];
         final int[] heard = new int[MOST_GRAVES];
         final int[] wrongs = new int[MOST_GRAVES];
-        /** The READING in which each first HEARD each NEWS, a GRAVE behind the other. */
+        /** The READING in which each HEARD each NEWS for the first time, a GRAVE behind the other. */
         final int[] since = new int[MOST_GRAVES * MOST_NEWS];
 
         void add(int kind, int place, int year) {
@@ -584,7 +584,7 @@ public final class GraveNews {
             return !has(set, n) && (ahead[n] & ~set) == 0;
         }
 
-        /** Into how many ways each set of NEWS can be read first; the last of them is all NEWS. */
+        /** In how many ways each set of NEWS can be read ahead of all others; the last set is that of all NEWS. */
         int countInto(int[] ways) {
             int sets = 1 << size;
             if (ways.length < sets) return 0;
