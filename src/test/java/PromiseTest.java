@@ -679,7 +679,8 @@ public final class PromiseTest {
         GraveNews x = parish(yard, paper, 2, 4, 6);
         GraveNews y = parish(yard, paper, 2, 4, 6);
         long draw = 1;
-        for (int n = 1; n <= 30; n++) {
+        int[] some = {1, 2, 11, 29, 30};
+        for (int n : some) {
             int clean = 0;
             for (int k = 0; k < n; k++) {
                 int[] drawn = new int[4];
