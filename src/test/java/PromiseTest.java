@@ -1055,6 +1055,7 @@ public final class PromiseTest {
             long[] after = state(x);
             for (int i = 0; i < before.length; i++) due("state " + i, after[i], before[i]);
             due("the draw", x.seed(3), 77);
+            due("now", x.now(5), 20);
             due("readers", x.hears(2, 0), BAD);
             x.out();
             x.out();

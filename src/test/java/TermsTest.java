@@ -51,10 +51,12 @@ public final class TermsTest {
         standMostAndLeast();
         standClean();
         standNone();
+        noPlaceBeyondThirtyFive();
         coverOfNone();
         coverFewest();
         coverFirstRow();
         coverEachReadingClean();
+        coverByTryingAll();
         ordersHowMany();
         ordersLastRow();
         yearsHowMany();
@@ -62,6 +64,7 @@ public final class TermsTest {
         yearsTooLate();
         weights();
         chanceInLowestTerms();
+        chanceOfAnyWeights();
         chanceOfAllOfASet();
         likeliestMostAndLeast();
         whichJustASet();
@@ -72,6 +75,7 @@ public final class TermsTest {
         hiddenAsASet();
         aloneJustOne();
         undoneTenKnown();
+        undoneEachAsItWas();
         undoneAsIfItHadNotBeen();
         undoneByNothingElse();
         lotsDraw();
@@ -659,6 +663,31 @@ public final class TermsTest {
         due("no graves", z.stand(0, 0), NONE);
     }
 
+    /** Who is at 30 could be reached only from a row behind the last, where the others would not hear. */
+    private static void noPlaceBeyondThirtyFive() {
+        says("PLACES 0 .. 35, and no more");
+        GraveNews x = plain(with(1), 30, 24, 31);
+        x.news(5, 0, 0);
+        due("all are owed", x.stand(0, 0), 30);
+        due("alone", x.alone(0, 0), NONE);
+        x.bar(0, 2 | 4);
+        due("stand", x.stand(0, 0), NONE);
+        noCover(x, 0, 0);
+        due("likeliest", x.likeliest(0, 1), 30);
+        GraveNews y = plain(with(1), 5, 4, 11);
+        y.news(5, 0, 0);
+        due("alone", y.alone(0, 0), NONE);
+        y.bar(0, 2 | 4);
+        due("stand", y.stand(0, 0), NONE);
+        noCover(y, 0, 0);
+        GraveNews z = plain(with(1), 0, 1, 6);
+        z.news(5, 0, 0);
+        due("alone", z.alone(0, 0), NONE);
+        z.bar(0, 2 | 4);
+        due("stand", z.stand(0, 0), NONE);
+        noCover(z, 0, 0);
+    }
+
     private static void covered(GraveNews x, int reader, int news, int... places) {
         due("cover", x.cover(reader, news, -1), places.length);
         for (int i = 0; i < 3; i++) due("cover " + i, x.cover(reader, news, i), i < places.length ? places[i] : NONE);
@@ -766,6 +795,63 @@ public final class TermsTest {
         x.out();
         x.grave(EMPTY, 1, 80);
         covered(x, 0, 0, 0, 2);
+    }
+
+    /** The first of the shortest rows, by trying all of them with what hears() and wronged() tell. */
+    private static int[] firstRow(GraveNews x, int reader, int news) {
+        int owed = x.of(news, 4) & ~x.of(news, 5);
+        int[] hearing = new int[36];
+        for (int p = 0; p < 36; p++) hearing[p] = x.wronged(reader, p, news) == 0 ? x.hears(reader, p) : -1;
+        if (owed == 0) return new int[0];
+        for (int a = 0; a < 36; a++) if (hearing[a] >= 0 && (owed & ~hearing[a]) == 0) return new int[] {a};
+        for (int a = 0; a < 36; a++) {
+            for (int b = 0; b < 36; b++) {
+                if (hearing[a] < 0 || hearing[b] < 0 || (hearing[a] & hearing[b]) != 0) continue;
+                if ((owed & ~(hearing[a] | hearing[b])) == 0) return new int[] {a, b};
+            }
+        }
+        for (int a = 0; a < 36; a++) {
+            for (int b = 0; b < 36; b++) {
+                if (hearing[a] < 0 || hearing[b] < 0 || (hearing[a] & hearing[b]) != 0) continue;
+                int both = hearing[a] | hearing[b];
+                for (int c = 0; c < 36; c++) {
+                    if (hearing[c] < 0 || (both & hearing[c]) != 0) continue;
+                    if ((owed & ~(both | hearing[c])) == 0) return new int[] {a, b, c};
+                }
+            }
+        }
+        return null;
+    }
+
+    private static void coverByTryingAll() {
+        says("COVER: the fewest, the first row, however many PLACES may be of it");
+        GraveNews corners = plain(with(4), 0, 5, 30, 35);
+        corners.news(5, 0, 0);
+        covered(corners, 0, 0, 1, 26);
+        int[][] yards = {{0, 5, 30, 35}, {0, 5, 30, 35, 14}, {0, 5, 30, 35, 14, 21}, {0, 35}, {0, 5, 30}, {0, 3, 18, 21, 35},
+            {7, 10, 25, 28}, {7, 10, 25, 28, 14}, {0, 2, 4, 12, 14, 16, 24, 26, 28}, {0, 5, 30, 35, 2, 12, 17, 32},
+            {0, 35, 7, 28, 14, 21}, {1, 4, 31, 34}, {0, 1, 2, 3, 4, 5}, {0, 6, 12, 18, 24, 30}};
+        int many = 0;
+        for (int[] yard : yards) {
+            for (int reach = 0; reach <= 5; reach++) {
+                for (int wind = 0; wind < 3; wind++) {
+                    GraveNews x = plain(with(reach), yard);
+                    x.news(5, 0, 0);
+                    x.wind(wind);
+                    int[] row = firstRow(x, 0, 0);
+                    if (row == null) noCover(x, 0, 0);
+                    else covered(x, 0, 0, row);
+                    if (row == null) continue;
+                    for (int p : row) {
+                        due("clean", x.wronged(0, p, 0), 0);
+                        x.read(0, p, 0);
+                    }
+                    due("all heard", x.count(4), 0);
+                    many += row.length == 3 ? 1 : 0;
+                }
+            }
+        }
+        due("some are of three (0: none)", many > 0 ? 1 : 0, 1);
     }
 
     private static void ordersHowMany() {
@@ -942,6 +1028,22 @@ public final class TermsTest {
         fraction(x, 14, 1, 1, 1);
         due("part 2", x.chance(0, 14, 1, 2), BAD);
         due("part -1", x.chance(0, 14, 1, -1), BAD);
+    }
+
+    private static void chanceOfAnyWeights() {
+        says("Fractions are in lowest terms, of any WEIGHTS");
+        GraveNews x = plain(with(1), 14);
+        setWeights(x, 0, 0, 0, 0, 0);
+        for (int above = 0; above <= 9; above++) {
+            x.weight(1, above);
+            for (int rest = 0; rest <= 9; rest++) {
+                x.weight(0, rest);
+                int common = 1;
+                for (int d = 1; d <= 18; d++) if (above % d == 0 && (above + rest) % d == 0) common = d;
+                if (above + rest == 0) due("no weight", x.chance(0, 26, 1, 0), NOT);
+                else fraction(x, 26, 1, above == 0 ? 0 : above / common, above == 0 ? 1 : (above + rest) / common);
+            }
+        }
     }
 
     private static void chanceOfAllOfASet() {
@@ -1178,6 +1280,31 @@ public final class TermsTest {
         x.read(0, 0, 2);
         due("one is known again", x.count(7), 1);
         due("undo", x.undo(), 0);
+        due("none more", x.undo(), NONE);
+    }
+
+    /** Each of the ten is known by itself: who heard, what, and who was wronged, also when older ones were lost. */
+    private static void undoneEachAsItWas() {
+        says("UNDONE: the latest of the 10 that are known, one behind the other");
+        int[][] rows = {{0, 0, 0}, {0, 1, 0}, {1, 0, 1}, {0, 35, 1}, {0, 0, 2}, {0, 1, 0}, {1, 0, 3}, {0, 1, 2}, {0, 0, 0},
+            {1, 0, 4}, {0, 35, 4}, {0, 1, 4}, {0, 0, 5}, {1, 0, 5}};
+        GraveNews x = plain(with(0, 1), 0, 1, 35);
+        for (int n = 0; n < 6; n++) x.news(5, n == 0 ? 0 : 1 << n - 1, 0);
+        int[][] was = new int[rows.length + 1][6];
+        for (int k = 0; k <= rows.length; k++) {
+            for (int g = 0; g < 3; g++) {
+                was[k][g] = x.told(g, 3);
+                was[k][3 + g] = x.told(g, 6);
+            }
+            if (k < rows.length) x.read(rows[k][0], rows[k][1], rows[k][2]);
+        }
+        for (int left = 9; left >= 0; left--) {
+            due("undo", x.undo(), left);
+            for (int g = 0; g < 3; g++) {
+                due("heard", x.told(g, 3), was[left + 4][g]);
+                due("wronged", x.told(g, 6), was[left + 4][3 + g]);
+            }
+        }
         due("none more", x.undo(), NONE);
     }
 

@@ -19,6 +19,7 @@ public final class TextTest {
         tapeHolds();
         tapeIsEmptyThen();
         anyTextBroken();
+        lettersMissing();
         yardHowMany();
         yardKinds();
         yardFigures();
@@ -32,6 +33,7 @@ public final class TextTest {
         paperParts();
         paperInPlaceOfAll();
         dayReadersAndNews();
+        dayByEachReader();
         dayPlaces();
         dayClean();
         dayNothingByAFault();
@@ -158,6 +160,15 @@ public final class TextTest {
         return kind == Kind.YARD ? ahead == '@' : ahead == ',';
     }
 
+    /** Whether a text that was cut may end there. */
+    private static boolean whole(Kind kind, String cut) {
+        if (cut.isEmpty()) return false;
+        char last = cut.charAt(cut.length() - 1);
+        if (kind == Kind.DAY) return last >= 'a' && last <= 'l';
+        if (kind == Kind.PAPER) return ",<!".indexOf(last) < 0;
+        return figure(cut, cut.length() - 1) && cut.lastIndexOf('@') > cut.lastIndexOf(',');
+    }
+
     private static void broken(Kind kind, String text) {
         int good = taken(kind, text);
         due("\"" + text + "\" stands", good >= 0 ? 1 : 0, 1);
@@ -170,10 +181,12 @@ public final class TextTest {
             if (insideNumber(kind, text, at)) fault(kind, ahead + "  " + rest, at + 2);
             else stands(kind, ahead + "  " + rest, good);
             says("the end: how many were typed");
-            int cut = taken(kind, ahead);
-            boolean whole = at > 0 && cut >= 0;
-            if (!whole) due("\"" + ahead + "\"", cut, -20 - at);
-            if (!whole) due("\"" + ahead + "   \"", taken(kind, ahead + "   "), -20 - at - 3);
+            if (whole(kind, ahead)) {
+                due("\"" + ahead + "\" stands (0: not)", taken(kind, ahead) >= 0 ? 1 : 0, 1);
+            } else {
+                fault(kind, ahead, at);
+                fault(kind, ahead + "   ", at + 3);
+            }
         }
         says("blanks behind all are passed over");
         stands(kind, text + "   ", good);
@@ -184,6 +197,31 @@ public final class TextTest {
         fault(kind, text + (kind == Kind.DAY ? "," : ";"), text.length());
         fault(kind, (kind == Kind.DAY ? ";" : ",") + text, 0);
         fault(kind, text + (kind == Kind.DAY ? ";;" : ",,") + text, text.length() + 1);
+    }
+
+    private static void lettersMissing() {
+        says("the first letter that can't stand there, if one is missing");
+        fault(Kind.YARD, "00@5", 0);
+        fault(Kind.YARD, "p0@5", 2);
+        fault(Kind.YARD, "p@5", 1);
+        fault(Kind.YARD, "p005", 3);
+        fault(Kind.YARD, "p00@,p00@5", 4);
+        fault(Kind.YARD, "p00@5p00@5", 5);
+        fault(Kind.YARD, "p00@5,00@5", 6);
+        fault(Kind.PAPER, "s", 0);
+        fault(Kind.PAPER, "<a", 0);
+        fault(Kind.PAPER, "5,!0", 2);
+        fault(Kind.PAPER, "5,5a", 3);
+        fault(Kind.PAPER, "5,5<", 4);
+        fault(Kind.PAPER, "5!", 2);
+        fault(Kind.DAY, "a", 0);
+        fault(Kind.DAY, "0a", 1);
+        fault(Kind.DAY, "00a", 2);
+        fault(Kind.DAY, "11a", 2);
+        fault(Kind.DAY, "000;000a", 3);
+        fault(Kind.DAY, "000a000a", 4);
+        fault(Kind.DAY, "000a;00a", 7);
+        fault(Kind.DAY, "000a;15a", 7);
     }
 
     // ---- yards
@@ -422,6 +460,25 @@ public final class TextTest {
             due("news `", taken(x, Kind.DAY, "000`"), -23);
             due("news A", taken(x, Kind.DAY, "000A"), -23);
             due("readings", x.count(3), news);
+        }
+    }
+
+    private static void dayByEachReader() {
+        says("A DAY: a figure (READER): by that one");
+        for (int reader = 0; reader < 4; reader++) {
+            for (int place = 0; place < 5; place++) {
+                GraveNews x = new GraveNews();
+                for (int r = 0; r < 4; r++) x.reader(r);
+                x.news(5, 0, 0);
+                x.grave(0, 0, 5);
+                taken(x, Kind.DAY, reader + "0" + place + "a");
+                due("reader " + reader + " at " + place, x.told(0, 3), place <= reader ? 1 : 0);
+            }
+        }
+        for (int news = 0; news < 5; news++) {
+            GraveNews x = parish();
+            due("news " + news, taken(x, Kind.DAY, "000" + (char) ('a' + news)), 1);
+            due("heard", x.told(0, 3), 1 << news);
         }
     }
 

@@ -2,11 +2,11 @@ import java.util.ArrayList;
 import java.util.List;
 
 /**
- * What is refused changes nothing, but as told; nor does what only asks. Each such call is made on one of two objects
- * that are made alike, and then both are looked at: all that can be asked of them is the same. And of several refusals
- * the first that a call names is told.
+ * What is refused changes nothing, but as told; nor does what only asks; and all but sheets and the tape is, when it is
+ * restored, as it was. Each such call is made on one of two objects that are made alike, and then both are looked at:
+ * all that can be asked of them is the same. And of several refusals the first that a call names is told.
  */
-public final class RefusalTest {
+public final class StateTest {
     private static final int BAD = -1, NOT = -2, FULL = -3, NONE = -4, NULL = -11, CAST = -12, INDEX = -13, SIZE = -14;
     private static final int LEAST = Integer.MIN_VALUE, MOST = Integer.MAX_VALUE;
     private static final int LOOKS = 3;
@@ -37,6 +37,9 @@ public final class RefusalTest {
         firstNamed();
         asked();
         freshOnes();
+        imageKeepsAll();
+        imageKeepsNoSheetsNorTape();
+        imageIsTheLatest();
         if (wrong != 0) System.exit(1);
     }
 
@@ -98,7 +101,9 @@ public final class RefusalTest {
     /** Its lane, its first readings as such, its length. */
     private static void lookAtSheet(GraveNews x, int s, List<Long> all) {
         for (int lane = 0; lane < 4; lane++) {
-            all.add((long) x.judged(s, lane, 0, 1));
+            long first = x.judged(s, lane, 0, 1);
+            all.add(first);
+            if (first == NULL || first == CAST) continue;
             all.add((long) x.judged(s, lane, 3, 1));
             for (int set = 0; set < 3; set++) {
                 all.add((long) x.which(set, s, lane, 0, 1));
@@ -214,14 +219,14 @@ public final class RefusalTest {
             x -> x.sheet(3, 0, 0), x -> x.drop(1), x -> x.item(0, 0, 5, 1), x -> x.item(0, 0, 3, 9),
             x -> x.copy(1, 0, 1, 2, 3)};
         for (int k = 0; k < changes.length; k++) {
-            due("change " + k + " is seen (0: not)", alike(RefusalTest::richWithTape, changes[k]) ? 0 : 1, 1);
+            due("change " + k + " is seen (0: not)", alike(StateTest::richWithTape, changes[k]) ? 0 : 1, 1);
         }
     }
 
     // ---- BAD
 
     private static void bad(String name, Call call) {
-        refused(name, RefusalTest::richWithTape, BAD, call);
+        refused(name, StateTest::richWithTape, BAD, call);
     }
 
     private static void badNumbers() {
@@ -368,7 +373,7 @@ public final class RefusalTest {
     // ---- FULL, NONE, NOT
 
     private static void fullOnes() {
-        Make full = RefusalTest::full;
+        Make full = StateTest::full;
         refused("eleventh grave", full, FULL, x -> x.grave(0, 0, 0));
         refused("thirteenth news", full, FULL, x -> x.news(99, 4095, 1));
         refused("fifth reader", full, FULL, x -> x.reader(0));
@@ -417,7 +422,7 @@ public final class RefusalTest {
             x.read(0, 0, 0);
             return x;
         }, NONE, x -> x.restore());
-        Make rich = RefusalTest::richWithTape;
+        Make rich = StateTest::richWithTape;
         refused("stand", rich, NONE, x -> x.stand(1, 2));
         refused("cover of none", rich, NONE, x -> x.cover(1, 2, 0));
         Make never = () -> {
@@ -449,11 +454,11 @@ public final class RefusalTest {
     }
 
     private static void notOnes() {
-        Make calm = RefusalTest::calm;
+        Make calm = StateTest::calm;
         refused("chance", calm, NOT, x -> x.chance(0, 0, 1, 0));
         refused("chance below", calm, NOT, x -> x.chance(0, 0, 0, 1));
         refused("likeliest", calm, NOT, x -> x.likeliest(0, 1));
-        refused("lots without both", RefusalTest::fresh, NOT, x -> x.lots(1));
+        refused("lots without both", StateTest::fresh, NOT, x -> x.lots(1));
         refused("lots without reader", () -> {
             GraveNews x = new GraveNews();
             x.news(5, 0, 0);
@@ -476,7 +481,7 @@ public final class RefusalTest {
     // ---- what the machine finds
 
     private static void machineOnes() {
-        Make rich = RefusalTest::richWithTape;
+        Make rich = StateTest::richWithTape;
         refused("which NULL", rich, NULL, x -> x.which(1, 2, 0, 0, 1));
         refused("judged NULL", rich, NULL, x -> x.judged(2, 0, 0, 1));
         refused("film NULL", rich, NULL, x -> x.film(2, 0, 0));
@@ -511,7 +516,7 @@ public final class RefusalTest {
     // ---- FAULTS: all stays, but THE TAPE is empty
 
     private static void faulty(String text, int yard, int paper, int day) {
-        Make rich = RefusalTest::rich;
+        Make rich = StateTest::rich;
         Call asYard = x -> {
             typed(x, text);
             return x.yard();
@@ -546,7 +551,7 @@ public final class RefusalTest {
     // ---- of several the first that a call names
 
     private static void firstNamed() {
-        Make full = RefusalTest::full;
+        Make full = StateTest::full;
         refused("BAD, FULL of grave", full, BAD, x -> x.grave(0, 36, 0));
         refused("BAD, FULL of reader", full, BAD, x -> x.reader(10));
         refused("BAD, FULL of news", full, BAD, x -> x.news(99, 4096, 0));
@@ -554,12 +559,12 @@ public final class RefusalTest {
         refused("BAD, FULL of type", full, BAD, x -> x.type(127));
         refused("BAD, FULL of read", () -> read(0), BAD, x -> x.read(0, 0, 2));
         refused("BAD, FULL of lots", () -> read(0), BAD, x -> x.lots(31));
-        refused("BAD, NOT of lots", RefusalTest::fresh, BAD, x -> x.lots(0));
-        Make calm = RefusalTest::calm;
+        refused("BAD, NOT of lots", StateTest::fresh, BAD, x -> x.lots(0));
+        Make calm = StateTest::calm;
         refused("BAD, NOT of chance", calm, BAD, x -> x.chance(0, 0, 8, 0));
         refused("BAD, NOT of chance", calm, BAD, x -> x.chance(0, 0, 1, 2));
         refused("BAD, NOT of likeliest", calm, BAD, x -> x.likeliest(0, 8));
-        Make rich = RefusalTest::rich;
+        Make rich = StateTest::rich;
         refused("BAD, NONE of cover", rich, BAD, x -> x.cover(1, 2, 3));
         refused("BAD, NONE of orders", rich, BAD, x -> x.orders(12));
         refused("BAD, NONE of years", rich, BAD, x -> x.years(31, 1));
@@ -587,7 +592,7 @@ public final class RefusalTest {
     // ---- what only asks
 
     private static void asked() {
-        Make rich = RefusalTest::richWithTape;
+        Make rich = StateTest::richWithTape;
         for (int k = 0; k < 10; k++) {
             int what = k;
             changesNothing("count", rich, x -> x.count(what));
@@ -614,7 +619,7 @@ public final class RefusalTest {
     // ---- a new object: nobody, no news
 
     private static void freshOnes() {
-        Make fresh = RefusalTest::fresh;
+        Make fresh = StateTest::fresh;
         refused("out", fresh, NONE, x -> x.out());
         refused("undo", fresh, NONE, x -> x.undo());
         refused("restore", fresh, NONE, x -> x.restore());
@@ -645,5 +650,103 @@ public final class RefusalTest {
             int what = k;
             refused("count", fresh, 0, x -> x.count(what));
         }
+    }
+
+    // ---- images
+
+    private static GraveNews richWithImage() {
+        GraveNews x = rich();
+        x.image();
+        return x;
+    }
+
+    private static void restored(String name, Call change) {
+        refused("restore behind " + name, StateTest::richWithImage, 1, x -> {
+            change.on(x);
+            return x.restore();
+        });
+    }
+
+    private static void imageKeepsAll() {
+        restored("nothing", x -> 0);
+        restored("grave", x -> x.grave(3, 20, 44));
+        restored("out", x -> x.out());
+        restored("out of all", x -> x.out() + x.out() + x.out());
+        restored("out and grave", x -> x.out() + x.grave(5, 1, 1));
+        restored("reader", x -> x.reader(5));
+        restored("news", x -> x.news(9, 7, 1));
+        restored("bar", x -> x.bar(0, 7));
+        restored("wind", x -> x.wind(4));
+        for (int w = 0; w < 5; w++) {
+            int wind = w;
+            restored("weight", x -> x.weight(wind, 9));
+        }
+        restored("now", x -> x.now(77));
+        restored("seed", x -> x.seed(7));
+        restored("read", x -> x.read(1, 0, 0));
+        restored("undo", x -> x.undo());
+        restored("undo of all", x -> x.undo() + x.undo() + x.undo() + x.undo() + x.undo());
+        restored("undo and read", x -> x.undo() + x.undo() + x.read(1, 0, 1) + x.read(1, 0, 2));
+        restored("twelve readings", x -> {
+            for (int k = 0; k < 12; k++) x.read(k % 2, 3 * k, k % 3);
+            return 0;
+        });
+        restored("lots", x -> x.lots(30));
+        restored("a yard", x -> {
+            typed(x, "n11@7,p55@8");
+            return x.yard();
+        });
+        restored("news in place of all", x -> {
+            typed(x, "7s!012,8<a,9,10");
+            return x.paper();
+        });
+        restored("a day", x -> {
+            typed(x, "100a;100b;029c");
+            return x.day();
+        });
+        restored("orders that were counted", x -> x.news(9, 0, 0) + x.orders(-1));
+        restored("an older restore", x -> x.out() + x.restore());
+    }
+
+    private static void imageKeepsNoSheetsNorTape() {
+        Call[] changes = {x -> x.type('d'), x -> x.sheet(0, 3, 7), x -> x.sheet(3, 0, 0), x -> x.drop(1),
+            x -> x.item(0, 0, 5, 1), x -> x.film(0, 0, 3), x -> x.copy(1, 0, 1, 2, 3)};
+        for (Call change : changes) {
+            refused("restore", () -> {
+                GraveNews x = richWithImage();
+                change.on(x);
+                return x;
+            }, 1, x -> x.restore());
+        }
+        refused("restore with letters on the tape", () -> {
+            GraveNews x = richWithTape();
+            x.image();
+            x.yard();
+            typed(x, "p12@3");
+            x.restore();
+            return x;
+        }, 1, x -> x.restore());
+        GraveNews x = richWithTape();
+        x.image();
+        due("the tape is a yard", x.yard(), 1);
+        due("restore", x.restore(), 1);
+        due("the tape stays empty", x.type('x'), 1);
+    }
+
+    private static void imageIsTheLatest() {
+        GraveNews x = new GraveNews();
+        due("none yet", x.restore(), NONE);
+        for (int g = 0; g < 10; g++) {
+            due("grave", x.grave(0, g, g), g);
+            due("image", x.image(), 1);
+        }
+        for (int g = 0; g < 10; g++) x.out();
+        due("restore", x.restore(), 1);
+        due("the latest", x.count(0), 10);
+        for (int g = 0; g < 10; g++) due("place", x.told(g, 1), g);
+        x.out();
+        due("image", x.image(), 1);
+        due("restore", x.restore(), 1);
+        due("the latest", x.count(0), 9);
     }
 }
