@@ -828,6 +828,13 @@ public final class TermsTest {
         GraveNews corners = plain(with(4), 0, 5, 30, 35);
         corners.news(5, 0, 0);
         covered(corners, 0, 0, 1, 26);
+        GraveNews last = graves(with(4), DOUBLE, 31, 5, PLAIN, 7, 5, PLAIN, 11, 5);
+        last.news(5, 0, 0);
+        last.wind(4);
+        for (int p = 0; p < 36; p++) due("someone hears at " + p + " (0: nobody)", last.hears(0, p) > 0 ? 1 : 0, 1);
+        int[] withLast = firstRow(last, 0, 0);
+        due("the last place is of it", withLast[1], 35);
+        covered(last, 0, 0, withLast);
         int[][] yards = {{0, 5, 30, 35}, {0, 5, 30, 35, 14}, {0, 5, 30, 35, 14, 21}, {0, 35}, {0, 5, 30}, {0, 3, 18, 21, 35},
             {7, 10, 25, 28}, {7, 10, 25, 28, 14}, {0, 2, 4, 12, 14, 16, 24, 26, 28}, {0, 5, 30, 35, 2, 12, 17, 32},
             {0, 35, 7, 28, 14, 21}, {1, 4, 31, 34}, {0, 1, 2, 3, 4, 5}, {0, 6, 12, 18, 24, 30}};
