@@ -34,6 +34,7 @@ public final class FaceTest {
 
     public static void main(String[] args) throws Exception {
         face();
+        document();
         nested();
         source();
         if (wrong != 0) System.exit(1);
@@ -69,6 +70,24 @@ public final class FaceTest {
         Constructor<?>[] made = GraveNews.class.getDeclaredConstructors();
         must(made.length == 1 && Modifier.isPublic(made[0].getModifiers()) && made[0].getParameterCount() == 0,
             "one public constructor");
+    }
+
+    /** The lists above are held against the document's own lines, so that neither is written wrongly. */
+    private static void document() throws Exception {
+        String page = Files.readString(Path.of("../shared/DOC.md"));
+        int start = page.indexOf("```java");
+        String block = page.substring(start, page.indexOf("```", start + 1));
+        Set<String> calls = new TreeSet<>();
+        Matcher call = Pattern.compile("public (int|long) (\\w+)\\((.*)\\);").matcher(block);
+        while (call.find()) {
+            String types = call.group(3).replaceAll("(int|long) \\w+", "$1").replace(" ", "");
+            calls.add(call.group(1) + " " + call.group(2) + "(" + types + ")");
+        }
+        must(calls.equals(Set.of(CALLS)), "the document has these calls: " + calls);
+        Set<String> constants = new TreeSet<>();
+        Matcher constant = Pattern.compile("([A-Z]+) = (-\\d+)").matcher(block);
+        while (constant.find()) constants.add(constant.group(1) + "=" + constant.group(2));
+        must(constants.equals(Set.of(CONSTANTS)), "the document has these constants: " + constants);
     }
 
     private static void nested() {
@@ -110,6 +129,10 @@ public final class FaceTest {
         must(!bare.contains("->") && !bare.contains("::") && !bare.contains("\""), "no lambda, method reference, text");
         Matcher imports = Pattern.compile("import ([\\w.]+);").matcher(bare);
         while (imports.find()) must(imports.group(1).equals("java.util.Arrays"), "no import of " + imports.group(1));
+        Set<String> library = Set.of("Arrays.fill", "Math.abs", "Math.max", "Math.min", "Integer.bitCount", "Integer.compare",
+            "System.arraycopy");
+        Matcher used = Pattern.compile("\\b(Arrays|Math|Integer|Long|System|List)\\.\\w+").matcher(bare);
+        while (used.find()) must(library.contains(used.group()), "no use of " + used.group());
         for (char c : all.toCharArray()) must(c < 128, "signs are 1 to 127");
         lengths(bare);
     }

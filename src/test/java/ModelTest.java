@@ -8,17 +8,15 @@ import java.util.Map;
 import java.util.Random;
 
 /**
- * Long mixed runs against a slow second writing of the document: lists and maps, whole copies for what is undone and
+ * Mixed runs against a slow second writing of the document: lists and maps, whole copies for what is undone and
  * for images, kinds as classes, searches by trying everything.
  */
 public final class ModelTest {
-    private static final int RUNS = 1500, STEPS = 500;
+    private static final int RUNS = 5000, RUNS_NEARLY_FULL = 12, MOST_CALLS = 512, MOST_CALLS_A_STEP = 140;
 
     public static void main(String[] args) {
         for (int run = 0; run < RUNS; run++) {
-            if (!new ModelTest(run).runs()) {
-                System.exit(1);
-            }
+            if (!new ModelTest(run).runs()) System.exit(1);
         }
     }
 
@@ -614,7 +612,8 @@ public final class ModelTest {
 
     private boolean runs() {
         if (random.nextInt(8) > 0) start();
-        for (int step = 0; step < STEPS && same; step++) {
+        if (run < RUNS_NEARLY_FULL) readNearlyAll();
+        while (same && done.size() <= MOST_CALLS - MOST_CALLS_A_STEP) {
             int kind = random.nextInt(24);
             if (kind < 1) typeText();
             else if (kind < 2) fillSheet();
@@ -623,7 +622,13 @@ public final class ModelTest {
             else if (kind < 20) ask();
             else askSheet();
         }
-        return same;
+        if (done.size() > MOST_CALLS) System.out.println("run " + run + " has too many calls: " + done.size());
+        return same && done.size() <= MOST_CALLS;
+    }
+
+    /** Up to a few READINGS below 9999, so that what follows is refused sooner or later. */
+    private void readNearlyAll() {
+        for (int k = 0; k < 333; k++) due("lots 30", x.lots(30), lots(30));
     }
 
     private void start() {

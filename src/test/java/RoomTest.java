@@ -24,7 +24,7 @@ public final class RoomTest {
         for (int g = 0; g < 10; g++) x.grave(g % 6, 3 * g, 5);
         for (int n = 0; n < 12; n++) x.news(5 + n / 2, 0, n % 2);
         for (int r = 0; r < 4; r++) x.reader(2 * r);
-        for (int k = 0; k < 30; k++) {
+        for (int k = 0; k < 6; k++) {
             x.lots(30);
             x.orders(-1);
             x.orders(11);
