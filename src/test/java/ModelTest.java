@@ -12,12 +12,17 @@ import java.util.Random;
  * for images, kinds as classes, searches by trying everything.
  */
 public final class ModelTest {
-    private static final int RUNS = 5000, RUNS_NEARLY_FULL = 12, MOST_CALLS = 512, MOST_CALLS_A_STEP = 140;
+    private static final int RUNS = 5000, RUNS_NEARLY_FULL = 12;
+    private static final int MOST_CALLS = 512, MOST_CALLS_A_TEXT = 140, MOST_CALLS_A_STEP = 14;
+    private static int refusedAsFull = 0;
 
     public static void main(String[] args) {
         for (int run = 0; run < RUNS; run++) {
             if (!new ModelTest(run).runs()) System.exit(1);
         }
+        if (refusedAsFull >= RUNS_NEARLY_FULL) return;
+        System.out.println("too few readings were refused as FULL: " + refusedAsFull);
+        System.exit(1);
     }
 
     // ---- the model
@@ -615,6 +620,7 @@ public final class ModelTest {
         if (run < RUNS_NEARLY_FULL) readNearlyAll();
         while (same && done.size() <= MOST_CALLS - MOST_CALLS_A_STEP) {
             int kind = random.nextInt(24);
+            if (kind < 1 && done.size() > MOST_CALLS - MOST_CALLS_A_TEXT) continue;
             if (kind < 1) typeText();
             else if (kind < 2) fillSheet();
             else if (kind < 4) change();
@@ -626,9 +632,12 @@ public final class ModelTest {
         return same && done.size() <= MOST_CALLS;
     }
 
-    /** Up to a few READINGS below 9999, so that what follows is refused sooner or later. */
+    /** Up to a few READINGS below 9999, so that of what follows some is refused. */
     private void readNearlyAll() {
+        while (s.readers.isEmpty()) addReader();
+        while (s.news.isEmpty()) addNews();
         for (int k = 0; k < 333; k++) due("lots 30", x.lots(30), lots(30));
+        due("lots 7", x.lots(7), lots(7));
     }
 
     private void start() {
@@ -774,13 +783,16 @@ public final class ModelTest {
         if (how < 7) {
             int want = !reads(reader, place, n) ? -1 : s.readings == 9999 ? -3 : hearing(reader, place);
             due("read " + reader + " " + place + " " + n, x.read(reader, place, n), want);
+            if (want == -3) refusedAsFull++;
             if (want >= 0) doRead(reader, place, n);
         } else if (how < 9) {
             due("undo", x.undo(), s.undos.isEmpty() ? -4 : s.undos.size() - 1);
             if (!s.undos.isEmpty()) undone();
         } else if (how == 9) {
             int k = 1 + some(random.nextBoolean() ? 30 : 5);
-            due("lots " + k, x.lots(k), lots(k));
+            int want = lots(k);
+            due("lots " + k, x.lots(k), want);
+            if (want == -3) refusedAsFull++;
         } else {
             due("wronged " + reader + " " + place + " " + n, x.wronged(reader, place, n),
                 reads(reader, place, n) ? wrongSet(reader, place, n) : -1);
